@@ -204,7 +204,7 @@ public final class TacitTrains {
         if (i < 0 || i >= lengths[RESULT]) {
             return 0;
         }
-        return element(RESULT, i);
+        return cells[RESULT * MAX_LIMIT + i];
     }
 
     // ---- the alphabet
@@ -397,18 +397,14 @@ public final class TacitTrains {
 
     // ---- vectors
 
-    private int element(int slot, int i) {
-        return cells[slot * MAX_LIMIT + i];
-    }
-
     private void append(int slot, int value) {
         cells[slot * MAX_LIMIT + lengths[slot]] = value;
         lengths[slot]++;
     }
 
-    private void setSingle(int slot, int value) {
-        lengths[slot] = 0;
-        append(slot, value);
+    private void appendElement(int from, int i, int to) {
+        cells[to * MAX_LIMIT + lengths[to]] = cells[from * MAX_LIMIT + i];
+        lengths[to]++;
     }
 
     private void copyVector(int from, int to) {
@@ -433,6 +429,7 @@ public final class TacitTrains {
         return m == 1 ? n : NO_PAIRING;
     }
 
+    // A vector of one element stands for that element in every pair.
     private int pairElement(int slot, int i) {
         return cells[slot * MAX_LIMIT + (lengths[slot] == 1 ? 0 : i)];
     }
@@ -452,11 +449,6 @@ public final class TacitTrains {
 
     private void leave() {
         frameCount--;
-    }
-
-    private void leaveWith(int slot) {
-        copyVector(slot, RETURNED);
-        leave();
     }
 
     private static int slotA(int frame) {
@@ -544,67 +536,61 @@ public final class TacitTrains {
     }
 
     private void stepReduce(int frame, int phase) {
-        int y = frameY[frame];
         int a = slotA(frame);
         if (phase > 0) {
             copyVector(RETURNED, a);
-        } else if (frameDyadic[frame]) {
-            copyVector(frameX[frame], a);
-        } else if (lengths[y] > 0) {
-            int start = element(y, 0);
-            setSingle(a, start);
+        } else if (frameDyadic[frame] || lengths[frameY[frame]] > 0) {
+            startFold(frame);
         } else {
             failure = ERR_LENGTH;
             return;
         }
-        int next = nextFolded(frame, phase);
-        if (next < lengths[y]) {
-            enterFolded(frame, next);
-        } else {
-            leaveWith(a);
-        }
+        foldOn(frame, phase, a);
     }
 
     private void stepScan(int frame, int phase) {
-        int y = frameY[frame];
         int a = slotA(frame);
         int z = slotZ(frame);
-        if (phase > 0) {
-            if (!collectReturned(z)) {
-                return;
+        if (phase == 0) {
+            lengths[z] = 0;
+            startFold(frame);
+            if (!frameDyadic[frame]) {
+                appendVector(a, z);
             }
+        } else if (collectReturned(z)) {
             copyVector(RETURNED, a);
-        } else if (frameDyadic[frame]) {
-            copyVector(frameX[frame], a);
-            lengths[z] = 0;
         } else {
-            lengths[a] = 0;
-            lengths[z] = 0;
-            if (lengths[y] > 0) {
-                int start = element(y, 0);
-                setSingle(a, start);
-                append(z, start);
-            }
+            return;
         }
-        int next = nextFolded(frame, phase);
-        if (next < lengths[y]) {
-            enterFolded(frame, next);
-        } else {
-            leaveWith(z);
+        foldOn(frame, phase, z);
+    }
+
+    // Slot A holds the value r of a reduce or a scan.
+    private void startFold(int frame) {
+        int y = frameY[frame];
+        int a = slotA(frame);
+        lengths[a] = 0;
+        if (frameDyadic[frame]) {
+            appendVector(frameX[frame], a);
+        } else if (lengths[y] > 0) {
+            appendElement(y, 0, a);
         }
     }
 
-    // A monadic fold starts from element 0, so its first step takes element 1.
-    private int nextFolded(int frame, int phase) {
-        return frameDyadic[frame] ? phase : phase + 1;
-    }
-
-    private void enterFolded(int frame, int next) {
+    private void foldOn(int frame, int phase, int valueSlot) {
+        int y = frameY[frame];
         int a = slotA(frame);
         int b = slotB(frame);
-        int right = element(frameY[frame], next);
-        setSingle(b, right);
-        enter(nodeFirst[frameNode[frame]], true, a, b);
+        // A monadic fold starts from element 0, so its first step takes element 1.
+        int next = frameDyadic[frame] ? phase : phase + 1;
+        if (next < lengths[y]) {
+            lengths[b] = 0;
+            appendElement(y, next, b);
+            enter(nodeFirst[frameNode[frame]], true, a, b);
+        } else {
+            copyVector(valueSlot, RETURNED);
+            leave();
+        }
     }
 
     private boolean collectReturned(int z) {
@@ -633,18 +619,23 @@ public final class TacitTrains {
         if (phase < count) {
             enterPair(frame, phase);
         } else {
-            leaveWith(z);
+            copyVector(z, RETURNED);
+            leave();
         }
     }
 
     private void enterPair(int frame, int i) {
         int a = slotA(frame);
         int b = slotB(frame);
-        int right = pairElement(frameY[frame], i);
-        setSingle(b, right);
+        lengths[a] = 0;
+        lengths[b] = 0;
         if (frameDyadic[frame]) {
             int left = pairElement(frameX[frame], i);
-            setSingle(a, left);
+            int right = pairElement(frameY[frame], i);
+            append(a, left);
+            append(b, right);
+        } else {
+            appendElement(frameY[frame], i, b);
         }
         enter(nodeFirst[frameNode[frame]], frameDyadic[frame], a, b);
     }
@@ -683,15 +674,14 @@ public final class TacitTrains {
 
     private void reverse(int y) {
         for (int i = lengths[y] - 1; i >= 0; i--) {
-            append(RETURNED, cells[y * MAX_LIMIT + i]);
+            appendElement(y, i, RETURNED);
         }
     }
 
     private void mapElements(int kind, int y) {
         int m = lengths[y];
         for (int i = 0; i < m; i++) {
-            int value = element(y, i);
-            int mapped = mapOne(kind, value);
+            int mapped = mapOne(kind, cells[y * MAX_LIMIT + i]);
             append(RETURNED, mapped);
         }
     }
@@ -752,7 +742,7 @@ public final class TacitTrains {
                 return;
             }
             for (int k = 0; k < count; k++) {
-                append(RETURNED, cells[y * MAX_LIMIT + i]);
+                appendElement(y, i, RETURNED);
             }
         }
     }
@@ -775,10 +765,10 @@ public final class TacitTrains {
         if (m == 0) {
             return;
         }
-        // Java's remainder of a negative number is not positive.
-        int k = (element(x, 0) % m + m) % m;
+        // The remainder of a negative number is negative or 0 in Java.
+        int k = (cells[x * MAX_LIMIT] % m + m) % m;
         for (int i = 0; i < m; i++) {
-            append(RETURNED, cells[y * MAX_LIMIT + (i + k) % m]);
+            appendElement(y, (i + k) % m, RETURNED);
         }
     }
 

@@ -175,6 +175,7 @@ public final class ApplyTest {
             monad(verb, NONE);
         }
         monad("#", NONE, 0);
+        monad("*", v(1, -1, 2, -2), 1, -1, 1, -1);
         monad("|", v(1, 2, 3, 4), 4, 3, 2, 1);
     }
 
