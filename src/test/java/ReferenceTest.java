@@ -1,8 +1,7 @@
 import java.util.Random;
 
 /** The program against the reference: every short text, made-up trains, and made-up runs of calls. */
-public final class ReferenceTest {
-    private static final String ALPHABET = "+-*<>[]#,|0123456789/\\\"@()";
+public final class ReferenceTest extends Checks {
     private static final String VERBS = "+-*<>[]#,|";
     private static final int[] SPECIAL = {
         0, 1, -1, 2, -2, 3, 15, 16, 17, Integer.MAX_VALUE, Integer.MIN_VALUE, Integer.MAX_VALUE - 1, 65536};
@@ -11,15 +10,15 @@ public final class ReferenceTest {
         shortTexts("", 4);
         madeUpTrains();
         madeUpRuns();
-        Checks.finish();
+        finish();
     }
 
     private static void shortTexts(String text, int room) {
-        TacitTrains t = Checks.withText(3, text);
+        TacitTrains t = withText(3, text);
         Reference r = new Reference(3);
         text.chars().forEach(c -> r.putChar((char) c));
-        Checks.due("parse of " + text, t.parse(), r.parse());
-        Checks.due("canon of " + text, Checks.canon(t), r.canon());
+        due("parse of " + text, t.parse(), r.parse());
+        due("canon of " + text, canon(t), r.canon());
         for (int i = 0; room > 0 && i < ALPHABET.length(); i++) {
             shortTexts(text + ALPHABET.charAt(i), room - 1);
         }
@@ -30,29 +29,32 @@ public final class ReferenceTest {
         Random random = new Random(20261115);
         int accepted = 0;
         int[] seen = new int[4];
+        int longest = 0;
         for (int i = 0; i < 200000; i++) {
             int limit = random.nextInt(4) == 0 ? 16 : 1 + random.nextInt(16);
             TacitTrains t = new TacitTrains(limit);
             Reference r = new Reference(limit);
-            String text = spoiled(random, madeUpTrain(random, 1 + random.nextInt(4), 0));
-            text.chars().forEach(c -> Checks.due("putChar into " + text, t.putChar((char) c), r.putChar((char) c)));
+            String text = spoiled(random, filled(random, madeUpTrain(random, 1 + random.nextInt(4), 0)));
+            text.chars().forEach(c -> due("putChar into " + text, t.putChar((char) c), r.putChar((char) c)));
             pushMadeUp(random, t, r, limit, TacitTrains.ARG_X);
             pushMadeUp(random, t, r, limit, TacitTrains.ARG_Y);
             String before = r.shown();
-            Checks.due("parse of " + text, t.parse(), r.parse());
+            due("parse of " + text, t.parse(), r.parse());
             accepted += t.hasTrain() ? 1 : 0;
+            longest = Math.max(longest, t.canonLength());
             for (int mode = TacitTrains.MONAD; mode <= TacitTrains.DYAD; mode++) {
                 int status = t.apply(mode);
-                Checks.due("apply(" + mode + ") of " + text + " after " + before, status, r.apply(mode));
-                Checks.due("the object after it", Checks.shown(t), r.shown());
+                due("apply(" + mode + ") of " + text + " after " + before, status, r.apply(mode));
+                due("the object after it", shown(t), r.shown());
                 if (status < seen.length) {
                     seen[status]++;
                 }
             }
         }
-        Checks.due("enough texts are accepted", accepted > 100000, true);
+        due("the longest canonical form", longest, TacitTrains.MAX_CANON);
+        due("enough texts are accepted", accepted > 100000, true);
         for (int status = 0; status < seen.length; status++) {
-            Checks.due("status " + status + " is seen often", seen[status] > 1000, true);
+            due("status " + status + " is seen often", seen[status] > 1000, true);
         }
     }
 
@@ -78,6 +80,18 @@ public final class ReferenceTest {
         return random.nextInt(8) == 0 ? "" + random.nextInt(10) : "" + VERBS.charAt(random.nextInt(VERBS.length()));
     }
 
+    /** Now and then, so many words more that the text is full. */
+    private static String filled(Random random, String text) {
+        if (random.nextInt(8) > 0) {
+            return text;
+        }
+        StringBuilder s = new StringBuilder(text);
+        while (s.length() < TacitTrains.MAX_TEXT) {
+            s.append(VERBS.charAt(random.nextInt(VERBS.length())));
+        }
+        return s.toString();
+    }
+
     private static String spoiled(Random random, String text) {
         if (random.nextInt(6) > 0) {
             return text;
@@ -93,7 +107,7 @@ public final class ReferenceTest {
         }
         for (int i = 0; i < count; i++) {
             int value = madeUpValue(random);
-            Checks.due("pushArg", t.pushArg(which, value), r.pushArg(which, value));
+            due("pushArg", t.pushArg(which, value), r.pushArg(which, value));
         }
     }
 
@@ -110,7 +124,7 @@ public final class ReferenceTest {
             for (int call = 0; call < 100; call++) {
                 String what = "run " + run + ", call " + call;
                 madeUpCall(random, what, t, r);
-                Checks.due(what + ", the object after it", Checks.shown(t), r.shown());
+                due(what + ", the object after it", shown(t), r.shown());
             }
         }
     }
@@ -121,21 +135,21 @@ public final class ReferenceTest {
             char c = pick == 0 ? (char) random.nextInt(128)
                 : pick < 5 ? ALPHABET.charAt(random.nextInt(ALPHABET.length()))
                 : VERBS.charAt(random.nextInt(VERBS.length()));
-            Checks.due(what + ", putChar", t.putChar(c), r.putChar(c));
+            due(what + ", putChar", t.putChar(c), r.putChar(c));
         } else if (pick < 22) {
-            Checks.due(what + ", parse", t.parse(), r.parse());
+            due(what + ", parse", t.parse(), r.parse());
         } else if (pick < 28) {
             int which = random.nextInt(8) == 0 ? random.nextInt(6) - 2 : random.nextInt(2);
             int value = madeUpValue(random);
-            Checks.due(what + ", pushArg", t.pushArg(which, value), r.pushArg(which, value));
+            due(what + ", pushArg", t.pushArg(which, value), r.pushArg(which, value));
         } else if (pick < 35) {
             int mode = random.nextInt(8) == 0 ? random.nextInt(8) - 2 : 1 + random.nextInt(2);
-            Checks.due(what + ", apply", t.apply(mode), r.apply(mode));
+            due(what + ", apply", t.apply(mode), r.apply(mode));
         } else if (pick < 36) {
             int i = random.nextInt(70) - 3;
-            Checks.due(what + ", argLength", t.argLength(i), r.argLength(i));
-            Checks.due(what + ", canonChar", (int) t.canonChar(i), r.canonChar(i));
-            Checks.due(what + ", resultAt", t.resultAt(i), r.resultAt(i));
+            due(what + ", argLength", t.argLength(i), r.argLength(i));
+            due(what + ", canonChar", (int) t.canonChar(i), r.canonChar(i));
+            due(what + ", resultAt", t.resultAt(i), r.resultAt(i));
         } else if (pick < 38) {
             t.clearText();
             r.clearText();
