@@ -40,7 +40,7 @@ abstract class Checks {
     static void sentence(String words, Runnable test) {
         int madeBefore = made;
         wrongHere = 0;
-        place = heading + ", «" + words + "»: ";
+        place = heading + ", '" + words + "': ";
         try {
             test.run();
         } catch (RuntimeException e) {
