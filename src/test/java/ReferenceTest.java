@@ -8,7 +8,7 @@ public final class ReferenceTest extends MadeUp {
     public static void main(String[] args) {
         shortTexts("", 4);
         shortTrains("", 3);
-        longestApplications();
+        nestedAdverbs();
         madeUpTrains();
         finish();
     }
@@ -57,13 +57,13 @@ public final class ReferenceTest extends MadeUp {
     }
 
     /** One adverb inside another, both over 16 elements, and as long a train inside as the text has room for. */
-    private static void longestApplications() {
+    private static void nestedAdverbs() {
         for (String adverbs : new String[] {"//", "/\\", "/\"", "\\/", "\\\\", "\\\"", "\"/", "\"\\", "\"\""}) {
             for (char verb : "+-*<>]".toCharArray()) {
                 String inner = "(" + ("" + verb).repeat(16) + ")" + adverbs.charAt(0);
                 Both both = new Both(MOST);
                 both.putText("(" + inner + "@((8+8)#]))" + adverbs.charAt(1));
-                due("parse of the longest text", both.parse(), true);
+                due("parse of the full text", both.parse(), true);
                 due("its length", both.program.textLength(), TacitTrains.MAX_TEXT);
                 pushAll(both, X, run(-5, MOST));
                 pushAll(both, Y, run(3, MOST));
